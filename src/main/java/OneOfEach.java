@@ -68,30 +68,10 @@ public final class OneOfEach {
     }
 
     public int told(int sock, int what) {
-        if (!isSock(sock)) {
+        if (!isSock(sock) || !within(what, Sock.TRAITS)) {
             return BAD;
         }
-        Sock asked = house.socks[sock];
-        switch (what) {
-            case 0:
-                return asked.kind;
-            case 1:
-                return asked.hand;
-            case 2:
-                return asked.low;
-            case 3:
-                return asked.high;
-            case 4:
-                return asked.where;
-            case 5:
-                return asked.other;
-            case 6:
-                return house.outingsOf(sock);
-            case 7:
-                return asked.since;
-            default:
-                return BAD;
-        }
+        return what == Sock.OUTINGS ? house.outingsOf(sock) : house.socks[sock].trait(what);
     }
 
     public int fade(int kind, int v) {
@@ -161,7 +141,7 @@ public final class OneOfEach {
             case 4:
                 return house.mondays;
             case 5:
-                return Integer.bitCount(house.placed(LOST) & house.leftOnes());
+                return Integer.bitCount(house.placed(LOST) & house.having(Sock.HAND, LEFT));
             default:
                 return BAD;
         }
@@ -310,10 +290,11 @@ public final class OneOfEach {
         if (lostSet == 0) {
             return NOT;
         }
+        int lefts = house.having(Sock.HAND, LEFT);
         int lost = Integer.bitCount(lostSet);
-        int left = Integer.bitCount(house.leftOnes());
+        int left = Integer.bitCount(lefts);
         long hits = 0;
-        for (int taken = Integer.bitCount(lostSet & house.leftOnes()); taken <= lost; taken++) {
+        for (int taken = Integer.bitCount(lostSet & lefts); taken <= lost; taken++) {
             hits += choose(left, taken) * choose(house.size - left, lost - taken);
         }
         return (int) inLowestTerms(hits, choose(house.size, lost), what);
@@ -324,8 +305,8 @@ public final class OneOfEach {
             return BAD - 1000;
         }
         int lost = house.placed(LOST);
-        int asked = house.ofKind(kind) & (what == 0 ? lost : ~lost);
-        int left = Integer.bitCount(asked & house.leftOnes());
+        int asked = house.having(Sock.KIND, kind) & (what == 0 ? lost : ~lost);
+        int left = Integer.bitCount(asked & house.having(Sock.HAND, LEFT));
         return left - (Integer.bitCount(asked) - left);
     }
 
@@ -480,6 +461,9 @@ public final class OneOfEach {
     }
 
     private static final class Sock {
+        // The numbers by which traits are asked for; OUTINGS are the house's to tell.
+        static final int KIND = 0, HAND = 1, LOW = 2, HIGH = 3, WHERE = 4, OTHER = 5, OUTINGS = 6, SINCE = 7, TRAITS = 8;
+
         int kind;
         int hand;
         int low;
@@ -498,6 +482,27 @@ public final class OneOfEach {
             high = newHigh;
             lodgers = newLodgers;
             toBox();
+        }
+
+        int trait(int what) {
+            switch (what) {
+                case KIND:
+                    return kind;
+                case HAND:
+                    return hand;
+                case LOW:
+                    return low;
+                case HIGH:
+                    return high;
+                case WHERE:
+                    return where;
+                case OTHER:
+                    return other;
+                case SINCE:
+                    return since;
+                default:
+                    return BAD;
+            }
         }
 
         void toBox() {
@@ -590,34 +595,18 @@ public final class OneOfEach {
             return (1 << size) - 1;
         }
 
+        int having(int trait, int v) {
+            int set = 0;
+            for (int i = 0; i < size; i++) {
+                if (socks[i].trait(trait) == v) {
+                    set |= 1 << i;
+                }
+            }
+            return set;
+        }
+
         int placed(int where) {
-            int set = 0;
-            for (int i = 0; i < size; i++) {
-                if (socks[i].where == where) {
-                    set |= 1 << i;
-                }
-            }
-            return set;
-        }
-
-        int ofKind(int kind) {
-            int set = 0;
-            for (int i = 0; i < size; i++) {
-                if (socks[i].kind == kind) {
-                    set |= 1 << i;
-                }
-            }
-            return set;
-        }
-
-        int leftOnes() {
-            int set = 0;
-            for (int i = 0; i < size; i++) {
-                if (socks[i].hand == LEFT) {
-                    set |= 1 << i;
-                }
-            }
-            return set;
+            return having(Sock.WHERE, where);
         }
 
         int outingsOf(int sock) {
@@ -727,6 +716,16 @@ public final class OneOfEach {
                 }
             }
             return true;
+        }
+
+        int boundTo(int first) {
+            int set = 0;
+            for (int i = 0; i < size; i++) {
+                if (socks[i].bond == first) {
+                    set |= 1 << i;
+                }
+            }
+            return set;
         }
 
         boolean meetsAllWishes(int kinds) {
@@ -875,7 +874,7 @@ public final class OneOfEach {
                 if (sign < 'x' || sign > 'z') {
                     break;
                 }
-                int bit = 1 << sign - 'x';
+                int bit = 1 << (sign - 'x');
                 if (bit <= lodgers) {
                     return FAULT - place;
                 }
@@ -1025,13 +1024,13 @@ public final class OneOfEach {
 
         void lay(House house) {
             int set = house.placed(BOX);
-            int lefts = house.leftOnes();
+            int lefts = house.having(Sock.HAND, LEFT);
             box = Integer.bitCount(set);
             for (int d = 0; d <= SOCKS; d++) {
                 pairless[d] = d == 0 ? 1 : 0;
             }
             for (int kind = 0; kind < KINDS; kind++) {
-                int some = set & house.ofKind(kind);
+                int some = set & house.having(Sock.KIND, kind);
                 int left = Integer.bitCount(some & lefts);
                 addKind(left, Integer.bitCount(some) - left, house.handed == 1);
             }
@@ -1086,22 +1085,25 @@ public final class OneOfEach {
                 grid[i] = i == 0 ? 1 : 0;
             }
             int dealt = 0;
+            int some = house.having(Sock.KIND, kind);
             for (int first = 0; first < house.size; first++) {
-                if (house.socks[first].kind != kind || house.socks[first].bond != first) {
-                    continue;
+                int bound = some & house.boundTo(first);
+                if (bound != 0) {
+                    dealt += Integer.bitCount(bound);
+                    deal(Integer.bitCount(bound), ownersOf(house, bound, sock, lodgers), dealt);
                 }
-                int bound = 0;
-                int owners = ALL_LODGERS;
-                for (int i = 0; i < house.size; i++) {
-                    if (house.socks[i].bond == first) {
-                        bound++;
-                        owners &= i == sock ? house.socks[i].lodgers & lodgers : house.socks[i].lodgers;
-                    }
-                }
-                dealt += bound;
-                deal(bound, owners, dealt);
             }
             return dealt;
+        }
+
+        private static int ownersOf(House house, int bound, int sock, int lodgers) {
+            int owners = ALL_LODGERS;
+            for (int i = 0; i < house.size; i++) {
+                if ((bound >> i & 1) == 1) {
+                    owners &= i == sock ? house.socks[i].lodgers & lodgers : house.socks[i].lodgers;
+                }
+            }
+            return owners;
         }
 
         private void deal(int bound, int owners, int dealt) {
