@@ -24,6 +24,10 @@ final class Check {
         return wrong;
     }
 
+    int asked() {
+        return asked;
+    }
+
     /** Ends the program with code 1 if something was wrong. */
     void end() {
         System.out.println(about + ": " + asked + " answers looked at, " + wrong + " not as due");

@@ -44,27 +44,16 @@ public final class PromiseTest {
         CHECK.end();
     }
 
-    /** Socks from a text, typed in words of up to eight bytes. */
     private static OneOfEach house(String text) {
-        OneOfEach x = new OneOfEach();
-        put(x, text);
-        return x;
+        return Make.house(text);
     }
 
     private static int put(OneOfEach x, String text) {
-        for (int at = 0; at < text.length(); at += 8) {
-            int n = Math.min(8, text.length() - at);
-            x.type(word(text.substring(at, at + n)), n);
-        }
-        return x.socks();
+        return Make.put(x, text);
     }
 
     private static long word(String text) {
-        long w = 0;
-        for (int i = 0; i < text.length(); i++) {
-            w = w << 8 | text.charAt(i);
-        }
-        return w;
+        return Make.word(text);
     }
 
     private static void newObject() {
