@@ -36,6 +36,7 @@ public final class FaceTest {
 
     public static void main(String[] args) throws Exception {
         face();
+        faceOfTheDocument(Files.readString(SOURCE), Path.of(System.getProperty("shared", "../shared"), "DOC.md"));
         nestedClasses();
         source(Files.readString(SOURCE));
         CHECK.end();
@@ -65,6 +66,19 @@ public final class FaceTest {
         CHECK.due("constructors", constructors.length, 1);
         CHECK.due("its parameters", constructors[0].getParameterCount(), 0);
         CHECK.holds("it is public", Modifier.isPublic(constructors[0].getModifiers()));
+    }
+
+    /** Each line of the document's face stands in the source as it is written there, names of parameters too. */
+    private static void faceOfTheDocument(String source, Path document) throws Exception {
+        Matcher face = Pattern.compile("(?s)```java\n(.*?)```").matcher(Files.readString(document));
+        CHECK.holds("the document has a face", face.find());
+        int lines = 0;
+        for (String line : face.group(1).split("\n")) {
+            String begun = line.startsWith("    public ") && line.endsWith(");") ? line.replaceAll(";$", " {") : line;
+            CHECK.holds("the source has the line '" + begun.trim() + "'", source.contains("\n" + begun + "\n"));
+            lines++;
+        }
+        CHECK.due("lines of the face: the class, its constants, its constructor, its calls, its end", lines, 3 + FACE.size() + 1);
     }
 
     private static boolean isHidden(Member member) {
